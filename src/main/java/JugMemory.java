@@ -199,11 +199,9 @@ public final class JugMemory {
             return 0;
         }
         // Any step that leaves these two ways leads back to where one of them began: no other is shorter.
+        // One goes forth through what the other goes back through, so both are NONE or neither is.
         int oneWay = pouringSteps(now.jugs[jug].brim, now.jugs[other].brim, v);
         int otherWay = pouringSteps(now.jugs[other].brim, now.jugs[jug].brim, v);
-        if (oneWay == NONE || otherWay == NONE) {
-            return Math.max(oneWay, otherWay);
-        }
         return Math.min(oneWay, otherWay);
     }
 

@@ -276,6 +276,10 @@ public final class PromiseTests {
         due("set brim", x.set(0, 1, 99), 4);
         due("mark stays", x.told(0, 2), 4);
         due("set brim 100", x.set(0, 1, 100), BAD);
+        due("set brim 1", x.set(0, 1, 1), 99);
+        due("mark is brim", x.told(0, 2), 1);
+        due("set brim", x.set(0, 1, 99), 1);
+        due("set mark", x.set(0, 2, 4), 1);
         due("set brim 0", x.set(0, 1, 0), BAD);
         due("set mark", x.set(0, 2, 99), 4);
         due("set mark", x.set(0, 2, 0), 99);
@@ -488,8 +492,15 @@ public final class PromiseTests {
         y.days(1);
         due("mark below brim stays", y.told(0, 2), 4);
         due("brim", y.told(0, 1), 8);
-        y.deal(9);
-        due("a new jug where one was", y.jug(0, 1, 0, 0), FULL);
+        y.jug(5, 2, 0, 0);
+        y.set(1, 4, 9);
+        y.days(1);
+        due("the one with most fills, down to 1", y.told(1, 1), 1);
+        due("the other one stays", y.told(0, 1), 8);
+        y.days(1);
+        due("gone at 0", y.count(0), 1);
+        due("a new jug where one was", y.jug(0, 1, 0, 0), 1);
+        due("has no fills", y.told(1, 4), 0);
     }
 
     private static void p13Bounds() {
@@ -571,6 +582,14 @@ public final class PromiseTests {
         y.seed(seedFor(2, 0, 6, 0, 99));
         y.days(1);
         due("richest, of several the least", y.town(4), 4);
+        y.gives(1, 1);
+        y.set(1, 1, 30);
+        y.seed(seedFor(2, 0, 6, 0, 99));
+        y.days(1);
+        due("richest is 1", y.town(4), 1);
+        JugMemory one = new JugMemory();
+        one.jug(0, 9, 0, 0);
+        due("best of one", one.town(5), 0);
         due("sold", y.town(1), 0);
         due("broken", y.town(2), 0);
     }
@@ -918,6 +937,9 @@ public final class PromiseTests {
         due("fault", textOf(y, "fee x"), -104);
         due("used up by a fault", y.count(8), 0);
         due("no text", y.count(6), 0);
+        due("a text behind a fault", textOf(y, "fee 1"), 0);
+        due("fault", textOf(y, "fee 12345"), -104);
+        due("a text behind a fault", textOf(y, "fee 1"), 1);
     }
 
     private static void p26Faults() {
@@ -932,7 +954,7 @@ public final class PromiseTests {
         }
         // a text, with the place of its fault
         Object[][] faults = {{"", 0}, {"   ", 3}, {"fee", 3}, {"fee   ", 6}, {"fe 1", 0}, {" feee 1", 1}, {"Fee 1", 0}, {"12 1", 0},
-            {"fee1", 3}, {"fee12345", 3}, {"feeg", 0}, {"fee 12345", 4}, {"fee 1+00000", 6}, {"fee 12 3", 7}, {"fee 1g", 5}, {"fee g1", 5},
+            {"fee1", 3}, {"fee12345", 3}, {"feeg", 0}, {"feez", 0}, {"afee 1", 0}, {"gee 1", 0}, {"fey 1", 0}, {"fin 1", 0}, {"fee 12345", 4}, {"fee 1+00000", 6}, {"fee 12 3", 7}, {"fee 1g", 5}, {"fee g1", 5},
             {"fee gs", 4}, {"fee g s", 6}, {"fee m", 4}, {"fee b", 4}, {"fee h", 4}, {"want g", 5}, {"want s", 5}, {"fine h", 5},
             {"fine n", 5}, {"fine g", 5}, {"fee 1+", 6}, {"fee 1 + ", 8}, {"fee +1", 4}, {"fee -1", 4}, {"fee 1++1", 6}, {"fee 1<2<3", 7},
             {"fee 1<2=3", 7}, {"fee (1<2>3)", 8}, {"fee 1<=2", 6}, {"fee (1", 6}, {"fee (1 ", 7}, {"fee 1)", 5}, {"fee ()", 5}, {"fee (1))", 7},
