@@ -960,7 +960,7 @@ public final class PromiseTests {
             {"fee 1<2=3", 7}, {"fee (1<2>3)", 8}, {"fee 1<=2", 6}, {"fee (1", 6}, {"fee (1 ", 7}, {"fee 1)", 5}, {"fee ()", 5}, {"fee (1))", 7},
             {"fee !", 5}, {"fee !!!!!!!!!1", 12}, {"fee (((((((((1)))))))))", 12}, {"fee !(!(!(!(!(!(!(!(!1))))))))", 20},
             {"fee (!(!(!(!(!(!(!(!(1)))))))))", 20}, {"fee 1!", 5}, {"fee 1!=2", 5}, {"fee 1(2)", 5}, {"fee (1)2", 7}, {"fee (1)g", 7},
-            {"fee\t1", 3}, {"fee 1\t", 5}, {"fee 1\u00e9", 5}, {"fee \u0000", 4}, {"fee 1 want 2", 6}, {"fee fee", 4}, {"fee 1%2", 5},
+            {"fee\t1", 3}, {"fee 1\t", 5}, {"fee 1\u00e9", 5}, {"fee \u0000", 4}, {"fee 1\u0000", 5}, {"fee 1\u0000 2", 5}, {"\u0000fee 1", 0}, {"fee 1\u0001", 5}, {"fee 1\u00ff", 5}, {"fee (1\u00fe", 6}, {"fee 1 want 2", 6}, {"fee fee", 4}, {"fee 1%2", 5},
             {"fee 1&&2", 6}, {"fee 1|", 6}, {"want want", 5}, {"fee G", 4}, {"fee 1_", 5}, {"fee 1|2&", 8}, {"fee {1}", 4}};
         for (Object[] f : faults) {
             due("fault of " + f[0], textOf(new JugMemory(), (String) f[0]), -100 - (Integer) f[1]);
