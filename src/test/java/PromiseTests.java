@@ -1279,37 +1279,28 @@ public final class PromiseTests {
         x.tell(1);
         due("check without an image", x.check(1), NO);
         due("none wait", x.count(7), 0);
-        textOf(x, "want b-m/2");
-        x.days(3);
-        x.keep();
         int[] rows = new int[60];
+        x = townWithImage();
         for (int i = 0; i < 30; i++) {
             x.days(1);
             rows[2 * i] = x.town(0);
             rows[2 * i + 1] = x.town(3);
         }
-        textOf(x, "want 0");
-        x.frost(100);
-        x.seed(9);
         for (int n : new int[] {1, 2, 15, 30}) {
-            tellRow(x, rows, 2 * n, -1);
+            x = toldRow(rows, 2 * n, -1);
             due("check " + n, x.check(n), 0);
             due("none wait", x.count(7), 0);
+            due("nothing changed", x.count(1), 33);
+            due("nothing changed", x.count(9), 9);
             for (int at = 0; at < 2 * n; at++) {
-                tellRow(x, rows, 2 * n, at);
-                due("wrong at " + at, x.check(n), 1 + at);
-                tellRow(x, rows, at, -1);
-                due("missing at " + at, x.check(n), 1 + at);
+                due("wrong at " + at, toldRow(rows, 2 * n, at).check(n), 1 + at);
+                due("missing at " + at, toldRow(rows, at, -1).check(n), 1 + at);
             }
             if (n < 30) {
-                tellRow(x, rows, 2 * n + 1, -1);
-                due("one too many", x.check(n), 1 + 2 * n);
-                tellRow(x, rows, 2 * n + 2, -1);
-                due("two too many", x.check(n), 1 + 2 * n);
+                due("one too many", toldRow(rows, 2 * n + 1, -1).check(n), 1 + 2 * n);
+                due("two too many", toldRow(rows, 2 * n + 2, -1).check(n), 1 + 2 * n);
             }
         }
-        due("nothing changed", x.count(1), 33);
-        due("nothing changed", x.count(9), 9);
         JugMemory y = new JugMemory();
         for (int i = 0; i < 99; i++) {
             y.days(100);
@@ -1328,10 +1319,25 @@ public final class PromiseTests {
         due("fewer, up to 9999", y.check(3), 5);
     }
 
-    private static void tellRow(JugMemory x, int[] row, int many, int wrongAt) {
+    private static JugMemory townWithImage() {
+        JugMemory x = someTown(5);
+        textOf(x, "want b-m/2");
+        x.days(3);
+        x.keep();
+        return x;
+    }
+
+    /** An object of its own for each row that is told, 30 days on and otherwise than its image: it has 512 calls alone. */
+    private static JugMemory toldRow(int[] row, int many, int wrongAt) {
+        JugMemory x = townWithImage();
+        x.days(30);
+        textOf(x, "want 0");
+        x.frost(100);
+        x.seed(9);
         for (int i = 0; i < many; i++) {
             x.tell(i == wrongAt ? row[i] + 1 : row[i]);
         }
+        return x;
     }
 
     private static void p40Keep() {
