@@ -364,6 +364,21 @@ public final class PromiseBoundaries extends Sentences {
                 due("town " + what, x.town(what), due[what]);
             }
         });
+        sentence("P14: 3 MARK of all, together", () -> {
+            due("of none", new JugMemory().town(3), 0);
+            JugMemory x = made(PromiseBoundaries::tenJugs);
+            due("of ten", x.town(3), 845);
+            x.set(4, 1, 1);
+            x.set(4, 4, 9);
+            x.frost(100);
+            x.days(1);
+            int sum = 0;
+            for (int i = 0; i < 9; i++) {
+                sum += x.told(i, 2);
+            }
+            due("one is gone", x.count(0), 9);
+            due("of nine", x.town(3), sum);
+        });
         sentence("P14: 5 BEST (NONE: there are no JUGS)", () -> {
             JugMemory x = new JugMemory();
             due("of none", x.town(5), NONE);
@@ -1205,6 +1220,17 @@ public final class PromiseBoundaries extends Sentences {
                 for (int many = 0; many < 2 * n; many++) {
                     due("check " + n + " of " + many, told(row, many, -1).check(n), 1 + many);
                 }
+            }
+        });
+        sentence("P39: or is missing, though one that is right stood there in a row before", () -> {
+            int[] row = rowOf(2);
+            for (int many = 0; many < 4; many++) {
+                JugMemory x = told(row, 4, -1);
+                due("the row before", x.check(2), 0);
+                for (int i = 0; i < many; i++) {
+                    x.tell(row[i]);
+                }
+                due("check 2 of " + many, x.check(2), 1 + many);
             }
         });
         sentence("P39: or one too many)", () -> {

@@ -558,6 +558,8 @@ public final class TermsBoundaries extends Sentences {
                 }
                 due("the last number", x.told(9, 1), BAD);
                 due("their set", x.hand(3, 2), 511);
+                x.frost(0);
+                due("what nine give on the next day", dayOf(x, 0, 3, -1), 245 - 20 - gone);
             }
         });
         sentence("2: those behind it have numbers 1 less, with all that they are", () -> {
@@ -637,6 +639,12 @@ public final class TermsBoundaries extends Sentences {
                 x.jug(5, r[3], r[1], 0);
                 dayOf(x, 0, r[0], -1);
                 due("richest of " + r[0] + " with " + r[2] + " and " + r[1] + " with " + r[3], x.town(4), r[4]);
+            }
+            for (int hand = 0; hand < 8; hand++) {
+                JugMemory x = new JugMemory();
+                oneThimble(x, 5, hand);
+                x.days(1);
+                due("richest, if he alone has some", x.town(4), hand);
             }
         });
         sentence("3: BEST: the JUG of most WORTH; of several the least", () -> {
@@ -751,6 +759,17 @@ public final class TermsBoundaries extends Sentences {
             due("6 fills a brim of 2 as well", x.hearts(4, 2, 0), 6);
             due("so much", x.hearts(4, 2, 1), 2);
             due("a hand that has no jug", x.hearts(7, 60, 0), 0);
+        });
+        sentence("3: HEARTS: the HEART is 0 .. 9", () -> {
+            JugMemory x = new JugMemory();
+            x.frost(0);
+            x.jug(0, 99, 4, 99);
+            textOf(x, "want h*2");
+            due("the more the better", x.hearts(4, 1, 0), 9);
+            due("so much", x.hearts(4, 1, 1), 18);
+            textOf(x, "want 50-h");
+            due("the less the better", x.hearts(4, 1, 0), 0);
+            due("so much", x.hearts(4, 1, 1), 50);
         });
         sentence("3: BECOMES: of several the least", () -> {
             JugMemory x = new JugMemory();
@@ -972,6 +991,33 @@ public final class TermsBoundaries extends Sentences {
                 fault(keys[key] + " " + names[key].substring(0, 2), keys[key].length() + 1);
             }
         });
+        sentence("4: NAMES of want: m MARK, b BRIM, h HEART of its HAND, n THE DAY", () -> {
+            String[] names = {"m/2", "b/2", "h/2", "n/2"};
+            int[] due = {40, 49, 4, 7};
+            for (int i = 0; i < 4; i++) {
+                JugMemory x = new JugMemory();
+                toDay(x, 15);
+                x.jug(0, 99, 6, 80);
+                x.heart(6, 8);
+                textOf(x, "want " + names[i]);
+                due("by " + names[i], x.told(0, 5), due[i]);
+                due("and of what is thought", x.behind(1, 0), due[i]);
+            }
+        });
+        sentence("4: NAMES of want: of each JUG and its HAND by itself", () -> {
+            JugMemory x = new JugMemory();
+            x.jug(0, 99, 6, 80);
+            x.jug(0, 98, 7, 81);
+            x.heart(6, 9);
+            textOf(x, "want h");
+            due("the first", x.told(0, 5), 9);
+            due("the second", x.told(1, 5), 3);
+            due("both", x.behind(1, 0), 12);
+            textOf(x, "want b-m");
+            due("the first", x.told(0, 5), 19);
+            due("the second", x.told(1, 5), 17);
+            due("both", x.behind(1, 0), 36);
+        });
         sentence("4: (what fee gives is told by fee(); without a TEXT: GOT)", () -> {
             JugMemory x = made(y -> oneThimble(y, 9, 2));
             x.days(1);
@@ -1027,6 +1073,10 @@ public final class TermsBoundaries extends Sentences {
             fault("fee 123456789", 4);
             fault("feefee 1", 0);
             fault("wantm", 0);
+            fault("fee ga", 4);
+            fault("fee gz", 4);
+            fault("feez 1", 0);
+            fault("fee 1+zzzz", 6);
         });
         sentence("4: Between words and signs, and at the ends, there may be blanks (byte 32)", () -> {
             isText("fee 1+2");
